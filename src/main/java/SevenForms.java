@@ -409,7 +409,10 @@ public final class SevenForms {
             wrong = checkOf(bytes, 0, size) != toldCheck;
         }
 
-        /** Grows by doubling, so that many reads of ever longer files do not make a row each. */
+        /**
+         * Grows by doubling, so that many reads of ever longer files do not make a row each. What was there is not
+         * kept: the first row has room for all that can be put, and a read brings all of its bytes.
+         */
         private void makeRoom(int needed) {
             if (needed <= bytes.length) {
                 return;
@@ -418,9 +421,7 @@ public final class SevenForms {
             for (int i = 0; i < 8 && room < needed; i++) {
                 room *= 2;
             }
-            byte[] wider = new byte[room];
-            System.arraycopy(bytes, 0, wider, 0, bytes.length);
-            bytes = wider;
+            bytes = new byte[room];
         }
     }
 
@@ -1128,7 +1129,6 @@ public final class SevenForms {
         private void keepFolder(int b, int coders, Block block) {
             coderCounts[b] = coders;
             outermost[b] = findOutermost(coders);
-            block.begin();
             int c = outermost[b];
             for (int k = 0; k < coders && c >= 0 && c < coders; k++) {
                 if (kinds[c] == UNKNOWN) {
@@ -1312,12 +1312,12 @@ public final class SevenForms {
             layOut(n, streams, draft);
             if (empties > 0 && tag == NO_BYTES_FILES) {
                 takeFlags(empties);
-                makeFiles(draft);
+                markEmpties(draft, tag);
                 tag = cursor.takeByte();
             }
             if (empties > 0 && tag == ANTIS) {
                 takeFlags(empties);
-                makeAnti(draft);
+                markEmpties(draft, tag);
                 tag = cursor.takeByte();
             }
             if (tag != NAMES) {
@@ -1357,25 +1357,19 @@ public final class SevenForms {
             }
         }
 
-        private void makeFiles(Archive draft) {
+        private void markEmpties(Archive draft, int tag) {
             int k = 0;
             for (int i = 0; i < draft.count && k < ENTRY_LIMIT; i++) {
                 Entry e = draft.entries[i];
-                if (e.size == 0) {
+                if (e.size > 0) {
+                    continue;
+                }
+                if (tag == NO_BYTES_FILES) {
                     e.kind = flags[k] ? FILE : DIRECTORY;
-                    k++;
-                }
-            }
-        }
-
-        private void makeAnti(Archive draft) {
-            int k = 0;
-            for (int i = 0; i < draft.count && k < ENTRY_LIMIT; i++) {
-                Entry e = draft.entries[i];
-                if (e.size == 0) {
+                } else {
                     e.anti = flags[k];
-                    k++;
                 }
+                k++;
             }
         }
 

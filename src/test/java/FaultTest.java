@@ -323,6 +323,7 @@ public final class FaultTest {
         // What belongs to a length is judged ahead of it.
         fault(8, 0, one + "17 9 0 !0 0 0 0");
         fault(2, 0, one + "17 9 !2 0 0 0 0");
+        fault(2, 0, one + "17 0 !2 0 0 0 0");
         fault(1, 0, one + "17 9 0 97 0 0 !");
         fault(1, 0, one + "17 5 0 97 0 98 0 !");
     }
@@ -348,6 +349,7 @@ public final class FaultTest {
         fault(2, 0, two + "20 !128 18 1 0");
         fault(1, 0, two + "20 5 1 0 1 1 1 1 1 1 1 1 2 2 2 2 2 2 2 !");
         fault(2, 0, two + "20 5 !3 0");
+        fault(2, 0, two + "20 0 !3 0");
         fault(2, 0, two + "20 11 0 64 0 1 1 1 1 1 1 1 1 !20");
         fault(2, 0, two + "!21 3 0 0 0 0 0");
         fault(2, 0, two + "21 11 !0 192 0 1 1 1 1 2 2 2 2 0 0");

@@ -297,6 +297,7 @@ public final class PromiseTest {
         is("10 too short", x.fault(), 1);
         x.clear();
         is("10 stays", x.fault(), 1);
+        oneTapeAfterAnother();
         SevenForms y = new SevenForms();
         y.entry(0);
         y.coder(0, 1, 1);
@@ -306,6 +307,35 @@ public final class PromiseTest {
         is("9 a tape without entries", y.read(), 0);
         is("9 no entries", y.count(0), 0);
         is("9 no coders", y.coderAt(0, NONE), 0);
+    }
+
+    /** Nothing of an earlier tape is left when another one is read by the same object. */
+    private static void oneTapeAfterAnother() {
+        SevenForms x = withFile(3);
+        x.write();
+        byte[] one = Form.typed(x);
+        SevenForms y = filled(3);
+        y.set(0, 1, 5);
+        y.set(1, 3, 5);
+        y.entry(1);
+        y.name(3, 'e');
+        y.set(3, 0, 1);
+        y.coder(0, 1, 4);
+        y.coder(0, 2, 0);
+        y.write();
+        byte[] more = Form.typed(y);
+        for (int k = 0; k < 3; k++) {
+            Form.type(y, more);
+            is("9 more", y.read(), 4);
+            Form.type(y, one);
+            is("9 one", y.read(), 1);
+            is("9 its size", y.of(0, 1), 3);
+            is("9 its time", y.of(0, 5), 0);
+            is("9 its coders", y.coderAt(0, NONE), 1);
+            is("9 it is right", y.of(0, 7), 0);
+            is("9 written", y.write(), one.length);
+            DUE.holds("9 the same", java.util.Arrays.equals(Form.typed(y), one));
+        }
     }
 
     private static void promise11Of() {
@@ -525,6 +555,20 @@ public final class PromiseTest {
             is("21 all new " + what, x.of(0, what), 0);
         }
         is("21 no time", x.number(0, 0), 0);
+        x.name(0, 'a');
+        x.set(0, 0, 1);
+        x.clear();
+        x.entry(0);
+        is("21 not anti", x.of(0, 4), 0);
+        x.name(0, 'a');
+        x.put(0, 1, 1);
+        x.write();
+        x.poke(32, 2);
+        x.read();
+        is("21 wrong", x.of(0, 7), 1);
+        x.clear();
+        x.entry(0);
+        is("21 wrong no more", x.of(0, 7), 0);
         SevenForms y = half();
         is("21 of half", y.clear(), 4);
         is("21 block 0 is known again", y.coderAt(0, NONE), 0);
