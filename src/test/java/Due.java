@@ -1,3 +1,5 @@
+import java.util.function.IntSupplier;
+
 /** Counts the answers that are not as due; each test ends by exit code 1 if there was one. */
 final class Due {
     private int asked = 0;
@@ -13,6 +15,13 @@ final class Due {
 
     void holds(String what, boolean got) {
         is(what, got ? 1 : 0, 1);
+    }
+
+    /** The call answers this, and nothing that can be asked changes by it. */
+    void refuses(String what, SevenForms x, IntSupplier call, int want) {
+        String before = State.of(x);
+        is(what, call.getAsInt(), want);
+        holds(what + ": nothing changes", before.equals(State.of(x)));
     }
 
     /** 0: peek answers; 1: it throws ArrayIndexOutOfBoundsException. */

@@ -36,6 +36,13 @@ final class Form {
         return add(0xC0 + (int) (v / 65536), (int) (v % 256), (int) (v / 256 % 256));
     }
 
+    /** A NUMBER with so many bytes behind its first one, be they too many or not: what does not fit is lost. */
+    Form number(long v, int behind) {
+        int ones = 0xFF00 >> behind & 255;
+        int left = behind < 7 ? (int) (v >>> 8 * behind) & (127 >> behind) : 0;
+        return add(ones | left).little(v, behind);
+    }
+
     Form bits(boolean[] row) {
         for (int i = 0; i < row.length; i += 8) {
             int v = 0;

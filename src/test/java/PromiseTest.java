@@ -246,30 +246,18 @@ public final class PromiseTest {
 
     /** Reading gives FILES of more BYTES than put can, so that a tape can have just 5000 bytes. */
     private static void promise8Limit() {
-        int third = 5000 - 32 - fourBlocks(200).length - 2400 - 2000 - 1;
-        byte[] tape = Form.tape(new byte[2400 + 2000 + third + 1], fourBlocks(third));
-        is("8 a tape of 5000", tape.length, 5000);
-        SevenForms x = new SevenForms();
-        Form.type(x, tape);
-        is("8 read of 5000", x.read(), 4);
+        SevenForms x = Samples.fiveThousand();
+        is("8 a tape of 5000", x.count(1), 5000);
+        is("8 read of 5000", x.count(0), 4);
         x.type(0, 0);
         is("8 up to 5000", x.write(), 5000);
         is("8 one more byte", x.put(3, 1, 1), 2);
         is("8 beyond 5000", x.write(), FULL);
         is("8 the tape stays", x.count(1), 5000);
         is("8 a file that was read is full", x.put(0, 1, 1), FULL);
-        SevenForms y = new SevenForms();
-        Form.type(y, tape);
-        y.read();
+        SevenForms y = Samples.fiveThousand();
         y.block(3, 0);
         is("8 a block of 2401", y.write(), FULL);
-    }
-
-    private static byte[] fourBlocks(int third) {
-        return new Form().addAll(Form.parse("1 4 6 0 4 9")).number(2400).number(2000).number(third).number(1)
-            .addAll(Form.parse("0 7 11 4 0 1 1 0 1 1 0 1 1 0 1 1 0 12")).number(2400).number(2000).number(third).number(1)
-            .addAll(Form.parse("0 8 10 1")).little(0, 8).little(0, 8).add(0, 0)
-            .addAll(Form.parse("5 4 17 17 0 97 0 0 0 98 0 0 0 99 0 0 0 100 0 0 0 0 0")).bytes();
     }
 
     private static void promise9And10ReadFault() {
