@@ -493,6 +493,15 @@ public final class EdgeCallTest {
         y.entry(1);
         y.name(0, 'a');
         is("8 what fits is written behind a FULL", y.write(), 47);
+        SevenForms z = Samples.fiveThousand();
+        for (int b = 0; b < 6; b++) {
+            z.coder(b, 1, 1);
+            z.coder(b, 3, 0);
+        }
+        for (int e = 4; e < 24; e++) {
+            z.block(Samples.addFile(z, 120), 4);
+        }
+        DUE.refuses("8 packed alone it would be more than 5000", z, z::write, FULL);
     }
 
     /** "THE TAPE is that: how many bytes." ENTRIES and CODERS stay as they are, and what was on THE TAPE goes. */

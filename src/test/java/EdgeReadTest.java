@@ -54,6 +54,7 @@ public final class EdgeReadTest {
         bitsLeftOver();
         filesAndAntisNeeded();
         filesAndAntisLength();
+        filesAndAntisOf24();
         namesOneToTwenty();
         namesLength();
         namesAsMany();
@@ -278,7 +279,9 @@ public final class EdgeReadTest {
         for (int k = 0; k <= 8; k++) {
             long least = k == 0 ? 0 : 1L << 7 * k;
             long most = k == 8 ? Long.MAX_VALUE : (1L << 7 * (k + 1)) - 1;
-            for (long v : new long[] {least, least + 1, most - 1, most}) {
+            // The highest bit alone stands in the first byte, up to six bytes behind it.
+            long highest = 1L << (k == 8 ? 62 : 7 * k + 6);
+            for (long v : new long[] {least, least + 1, highest, most - 1, most}) {
                 faultAt(5, 32 + 7, Form.tape(zeros(0), number17(v, k)));
                 // A right NUMBER is judged behind the NAME that has no units, at 41 with no bytes behind its first.
                 byte[] nameless = new Form().addAll(Form.parse(ONE + "17")).number(v, k).addAll(Form.parse("0 0 0 0 0")).bytes();
@@ -810,6 +813,22 @@ public final class EdgeReadTest {
         fault(5, 2, eight + "16 !2 1 0" + names);
         fault(2, 2, FILE + "5 8 14 1 127 15 1 !1");
         fault(2, 2, FILE + "5 8 14 1 127 16 1 !1");
+    }
+
+    /** "NUMBER n (1 to 24 ..)", and of them one with BYTES: 23 bits for the others. */
+    private static void filesAndAntisOf24() {
+        String names = " 17 97 0" + " 97 0 0 0".repeat(24) + " 0 0";
+        String first = FILE + "5 24 14 3 127 255 255 ";
+        SevenForms x = read(2, first + "15 3 128 0 2 16 3 0 0 2" + names);
+        DUE.is("24: the first without bytes is a file", x.of(1, 0), 0);
+        DUE.is("24: the last one is a file", x.of(23, 0), 0);
+        DUE.is("24: the last one is anti", x.of(23, 4), 1);
+        DUE.is("24: the one ahead is neither", x.of(22, 0) + 2 * x.of(22, 4), 1);
+        fault(2, 2, first + "15 3 128 0 !1");
+        fault(2, 2, first + "16 3 0 0 !1");
+        SevenForms y = read(2, FILE + "5 24 14 3 255 255 254 15 3 255 255 254 16 3 255 255 254" + names);
+        DUE.is("24: the last has bytes", y.of(23, 1), 2);
+        DUE.is("24: it is not anti", y.of(23, 4), 0);
     }
 
     private static String units(int n) {

@@ -125,6 +125,13 @@ public final class EdgeWriteTest {
         file(x, 0, 200);
         written("a byte", x, "200", "1 4 6 0 1 9 1 0 7 11 1 0 1 1 0 12 1 0 8 10 1" + check(200) + "0 0 5 1" + names(1) + "0 0");
         DUE.is("a byte: OFFSET", x.peek(12), 1);
+        SevenForms y = new SevenForms();
+        y.coder(0, 2, 0);
+        y.coder(0, 1, 9);
+        y.clear();
+        file(y, 0, 200);
+        DUE.is("a byte: CODERS that were cleared are not written", y.write(), x.count(1));
+        DUE.holds("a byte: the same tape", Arrays.equals(Form.typed(x), Form.typed(y)));
         DUE.is("a byte: SIZE", x.peek(20), x.count(1) - 33);
     }
 
