@@ -48,7 +48,8 @@ public final class SevenForms {
         tape = new Tape();
         spare = new Tape();
         writer = new TapeWriter();
-        reader = new TapeReader();
+        Cursor cursor = new Cursor();
+        reader = new TapeReader(cursor, new StreamsReader(cursor), new EntriesReader(cursor));
     }
 
     public int entry(int kind) {
@@ -1463,10 +1464,10 @@ public final class SevenForms {
         private final StreamsReader streams;
         private final EntriesReader entries;
 
-        TapeReader() {
-            cursor = new Cursor();
-            streams = new StreamsReader(cursor);
-            entries = new EntriesReader(cursor);
+        TapeReader(Cursor shared, StreamsReader streamsReader, EntriesReader entriesReader) {
+            cursor = shared;
+            streams = streamsReader;
+            entries = entriesReader;
         }
 
         void takeTape(Tape tape, Archive draft) {

@@ -6,7 +6,7 @@ import java.util.List;
 /** TO READ by the words of the document, written apart from the class: a second opinion on any tape. */
 final class Oracle {
     /** The first FAULT of a tape. */
-    private static final class Fault extends RuntimeException {
+    static final class Fault extends RuntimeException {
         private static final long serialVersionUID = 1;
         final int fault;
         final int place;
@@ -15,20 +15,6 @@ final class Oracle {
             this.fault = fault;
             this.place = place;
         }
-    }
-
-    /** An ENTRY that was read. */
-    private static final class Item {
-        int kind;
-        int size;
-        int block;
-        String name = "";
-        boolean anti;
-        Long time;
-        Integer attributes;
-        boolean lost;
-        boolean wrong;
-        byte[] bytes = new byte[0];
     }
 
     /** A BLOCK that was read: its coders by their kinds (and 4 d), from the outermost; a kind of -1 is one that nobody knows. */
@@ -57,13 +43,37 @@ final class Oracle {
 
     /** "FAULT f at p", or ENTRIES and CODERS as State tells them. */
     static String read(byte[] tape) {
-        Oracle o = new Oracle(tape);
         try {
-            o.tape();
+            Oracle o = open(tape);
+            return State.archive(o.items, o.coders());
         } catch (Fault f) {
             return "FAULT " + f.fault + " at " + f.place;
         }
-        return o.told();
+    }
+
+    /** The tape as it was read; throws its Fault. */
+    static Oracle open(byte[] tape) {
+        Oracle o = new Oracle(tape);
+        o.tape();
+        return o;
+    }
+
+    List<Item> items() {
+        return items;
+    }
+
+    /** The CODERS of each BLOCK from the outermost; null of one that nobody KNOWS. */
+    List<List<Integer>> coders() {
+        List<List<Integer>> all = new ArrayList<>();
+        for (int b = 0; b < 6; b++) {
+            Folder f = b < folders.size() ? folders.get(b) : new Folder();
+            List<Integer> own = new ArrayList<>();
+            for (int c : f.order) {
+                own.add(f.coders.get(c));
+            }
+            all.add(f.known() ? own : null);
+        }
+        return all;
     }
 
     private int little(int from, int n) {
@@ -491,39 +501,5 @@ final class Oracle {
             }
         }
         return out;
-    }
-
-    private String told() {
-        StringBuilder s = new StringBuilder("entries " + items.size() + "\n");
-        for (Item it : items) {
-            s.append(it.kind + " " + it.size + " " + it.block + " " + it.name.length() + " " + one(it.anti) + " ");
-            s.append(one(it.time != null) + " " + one(it.attributes != null) + " " + one(it.wrong) + " " + one(it.lost) + " ");
-            s.append((it.time == null ? 0 : it.time) + " " + (it.attributes == null ? 0 : it.attributes) + " ");
-            s.append(Form.check(it.bytes) + " name");
-            for (char c : it.name.toCharArray()) {
-                s.append(" " + (int) c);
-            }
-            s.append(" bytes");
-            for (byte b : it.bytes) {
-                s.append(" " + (b & 255));
-            }
-            s.append('\n');
-        }
-        for (int b = 0; b < 6; b++) {
-            s.append("block " + b + ":");
-            Folder f = b < folders.size() ? folders.get(b) : new Folder();
-            boolean known = f.known();
-            s.append(" " + (known ? f.coders.size() : SevenForms.STATE));
-            for (int c = 0; c < 4; c++) {
-                int coder = c < f.order.size() ? f.coders.get(f.order.get(c)) : SevenForms.NONE;
-                s.append(" " + (known ? coder : SevenForms.STATE));
-            }
-            s.append('\n');
-        }
-        return s.toString();
-    }
-
-    private static int one(boolean b) {
-        return b ? 1 : 0;
     }
 }

@@ -53,21 +53,37 @@ public final class OracleTest {
         DUE.end();
     }
 
-    private int compare(int seed, int k) {
+    /** A tape of any seed: a right one, or one with a wrong place or two. */
+    static byte[] tape(int seed, boolean edited) {
+        OracleTest one = new OracleTest(seed);
+        one.make();
+        return Form.tape(one.packedBytes(), one.headerBytes(edited));
+    }
+
+    private byte[] headerBytes(boolean edited) {
         List<Token> tokens = new ArrayList<>();
         for (Token t : header) {
             tokens.add(t.copy());
         }
-        for (int edits = k == 0 ? 0 : 1 + random.nextInt(2); edits > 0; edits--) {
+        for (int edits = edited ? 1 + random.nextInt(2) : 0; edits > 0; edits--) {
             edit(tokens);
         }
         byte[] bytes = bytesOf(tokens);
-        if (k > 0 && random.nextInt(8) == 0) {
-            bytes = Arrays.copyOf(bytes, bytes.length + random.nextInt(12) - 10 < 1 ? 1 : bytes.length + random.nextInt(12) - 10);
+        if (edited && random.nextInt(8) == 0) {
+            bytes = Arrays.copyOf(bytes, Math.max(1, bytes.length + random.nextInt(12) - 10));
         }
+        return bytes;
+    }
+
+    private byte[] packedBytes() {
         byte[] row = new byte[packed];
         random.nextBytes(row);
-        byte[] tape = Form.tape(row, bytes);
+        return row;
+    }
+
+    private int compare(int seed, int k) {
+        byte[] bytes = headerBytes(k > 0);
+        byte[] tape = Form.tape(packedBytes(), bytes);
         String want = Oracle.read(tape);
         SevenForms x = new SevenForms();
         x.coder(5, 2, 0);

@@ -1,3 +1,5 @@
+import java.util.List;
+
 /** All that can be asked of an object, as a text: two that are alike answer alike. */
 final class State {
     private State() {
@@ -42,5 +44,37 @@ final class State {
             s.append(' ').append(v);
             i++;
         }
+    }
+
+    /** ENTRIES and CODERS as the tests hold them (null: nobody KNOWS the BLOCK), told likewise. */
+    static String archive(List<Item> items, List<List<Integer>> coders) {
+        StringBuilder s = new StringBuilder("entries ").append(items.size()).append('\n');
+        for (Item it : items) {
+            s.append(it.kind + " " + it.size + " " + it.block + " " + it.name.length() + " " + one(it.anti) + " ");
+            s.append(one(it.time != null) + " " + one(it.attributes != null) + " " + one(it.wrong) + " " + one(it.lost) + " ");
+            s.append((it.time == null ? 0 : it.time) + " " + (it.attributes == null ? 0 : it.attributes) + " ");
+            s.append(Form.check(it.bytes) + " name");
+            for (char c : it.name.toCharArray()) {
+                s.append(" " + (int) c);
+            }
+            s.append(" bytes");
+            for (byte b : it.bytes) {
+                s.append(" " + (b & 255));
+            }
+            s.append('\n');
+        }
+        for (int b = 0; b < 6; b++) {
+            List<Integer> own = coders.get(b);
+            s.append("block " + b + ": " + (own == null ? SevenForms.STATE : own.size()));
+            for (int c = 0; c < 4; c++) {
+                s.append(" " + (own == null ? SevenForms.STATE : c < own.size() ? own.get(c) : SevenForms.NONE));
+            }
+            s.append('\n');
+        }
+        return s.toString();
+    }
+
+    private static int one(boolean b) {
+        return b ? 1 : 0;
     }
 }
